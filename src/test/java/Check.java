@@ -2,6 +2,8 @@ import java.util.NoSuchElementException;
 
 /** What the tests have in common: counting wrong answers, THE TEXT, the ROW, whole TREES. */
 final class Check {
+    private static final int MOST_TOLD = 100;
+
     private int wrong = 0;
     private String part = "";
 
@@ -12,6 +14,9 @@ final class Check {
     void due(String call, long got, long want) {
         if (got != want) {
             wrong++;
+            if (wrong > MOST_TOLD) {
+                return;
+            }
             System.out.println(part + ": " + call + " answered " + got + ", due is " + want);
         }
     }

@@ -103,6 +103,7 @@ public final class PromisesTest {
         p50();
         p51();
         p52();
+        againAndAgain();
     }
 
     private void p1() {
@@ -560,6 +561,10 @@ public final class PromisesTest {
         check.has("some", x, 1, 0, 21, 22, 999, -990, 5);
         due("down", x.adds(0, 4, 5, -20, 1), 3);
         check.has("down", x, 1, 0, 1, 2, 990, -999, 5);
+        due("least v", x.adds(0, 0, 2, -999, 1), 2);
+        check.has("least v", x, 1, -999, -998, 2, 990, -990, 5);
+        due("greatest v", x.adds(0, 4, 6, 999, 1), 5);
+        check.has("greatest v", x, 1, 0, 1, 2, 990, 9, 999);
         due("all", x.adds(0, 0, 6, 1, 1), 6);
         due("at the edge", x.adds(1, 0, 6, 999, 1), 6);
         due("at the edge, all the same", x.adds(1, 3, 4, 1, 1), 3);
@@ -645,6 +650,14 @@ public final class PromisesTest {
             x.turned(4, 254, 4);
         }
         due("again and again", x.get(4, 0), 255 - 450 % 255);
+        for (int index = 0; index < 255; index++) {
+            due("other PLACES stay", x.get(3, index), index);
+        }
+        check.has("other PLACES stay", x, 0, 3, 5, 8, 8, 11, 13);
+        check.has("other PLACES stay", x, 1, 3, 5, 8, 8, 11, 13);
+        check.has("other PLACES stay", x, 2, 4);
+        due("NODES of all", x.nodes(), 255 + 255 + 6 + 6 + 1);
+        check.row("NODES of all", x, 0, 255 + 255 + 6 + 6 + 1);
     }
 
     private void p21() {
@@ -965,6 +978,9 @@ public final class PromisesTest {
         due("alike: down a", x.pop(0, 2), 1 + 3);
         check.has("alike: down a", x, 2, 5, 6, 5, 9, 7, 8);
         Check.grows(x, 0, "(9(1(3..)(2..))(0(4..)(5..)))");
+        due("w alike", x.pop(Check.grows(x, 0, "(1(5(5..)(7..))(5(6..)(8..)))") - 7, 2), 1 + 1);
+        check.has("w alike", x, 2, 5, 5, 5, 6, 7, 8);
+        Check.grows(x, 0, "(9(1(3..)(2..))(0(4..)(5..)))");
         due("no heap", x.pop(0, 2), 1 + 2);
         check.row("no heap", x, 9);
         check.has("no heap", x, 2, 0, 3, 1, 4, 2, 5);
@@ -983,6 +999,19 @@ public final class PromisesTest {
             check.row("rising", x, v);
             due("still a heap", x.heap(0), 1);
         }
+        Check.rising(x, 0, -100, 255);
+        x.reverses(0, 0);
+        x.heaps(0, 0);
+        for (int v = -100; v < 155; v++) {
+            x.pop(0, 0);
+            check.row("255 rising", x, v);
+        }
+        due("none left", x.count(0) & 1, 0);
+        // LEFT without its far LEFT is 6 new NODES; 127 goes down to DEPTH 6, 999 to DEPTH 7.
+        Check.rising(x, 0, 0, 255);
+        due("255", x.pop(0, 1), 7 + 6);
+        x.sets(0, 127, 999, 0);
+        due("255, deep", x.pop(0, 1), 8 + 6);
     }
 
     private void p35() {
@@ -1058,6 +1087,10 @@ public final class PromisesTest {
         markRow();
         due("none", x.finds(0, 1), -2);
         due("of none", x.finds(5, 1), -2);
+        Check.tells(x, 1, "5,-3,8,-3,8");
+        x.finds(0, 0);
+        markRow();
+        due("none, but behind another row", x.finds(1, 0), -2);
         for (int v : NO_NUMBERS) {
             due("no such NUMBER", x.finds(0, v), NONE);
         }
@@ -1221,6 +1254,8 @@ public final class PromisesTest {
         }
         Check.grows(x, 1, Check.written(x, 0));
         due("grows again", x.same(0, 1), 1);
+        Check.tells(x, 1, "99,9,-99,-9,101,100");
+        check.holds("nearly more digits", Check.written(x, 1).equals("(99(9(-9..)(100..))(-99(101..).))"));
         x.fills(255, -999, 2);
         due("the longest", x.written(2, -1), 255 * 6 + 256);
         due("the longest, at its end", x.written(2, 255 * 6 + 255), ')');
@@ -1387,6 +1422,45 @@ public final class PromisesTest {
         due("another", x.count(-1), NONE);
         x.fills(0, 1, 0);
         due("PLACES", x.count(0), 32);
+    }
+
+    /** 450 calls of each kind that makes NODES, with five PLACES that must stay as they are. */
+    private void againAndAgain() {
+        for (int kind = 0; kind < 14; kind++) {
+            promise(1, "again and again, kind " + kind);
+            for (int k = 0; k < 5; k++) {
+                Check.rising(x, k, 100 * k, 127);
+                x.roots(k, k, k, k);
+            }
+            for (int times = 0; times < 450; times++) {
+                makeSome(kind);
+            }
+            for (int k = 0; k < 5; k++) {
+                due("own", x.own(k), 128);
+                for (int index = 0; index < 255; index++) {
+                    due("INDEX " + index, x.get(k, index), index == 0 ? k : 100 * k + (index - 1) / 2);
+                }
+            }
+        }
+    }
+
+    private void makeSome(int kind) {
+        switch (kind) {
+            case 0 -> x.fills(255, 1, 5);
+            case 1 -> x.slips(5, 0, 1, 5);
+            case 2 -> x.adds(0, 0, 255, 1, 5);
+            case 3 -> x.appends(5, 5, x.sides(1, 0, 5) == 127 ? 5 : 0);
+            case 4 -> x.turned(1, 50, 5);
+            case 5 -> x.reverses(2, 5);
+            case 6 -> x.keeps(3, 9, 5);
+            case 7 -> x.skips(4, 250, 5);
+            case 8 -> x.swaps(0, 253, 254, 5);
+            case 9 -> x.mirrors(1, 5);
+            case 10 -> x.push(5, 1, 5);
+            case 11 -> x.pop(2, 5);
+            case 12 -> x.heaps(3, 5);
+            default -> x.sets(4, 200, x.first(4, 5) + x.last(4, 5), 5);
+        }
     }
 
     private void p52() {
