@@ -150,8 +150,7 @@ public final class EvenTrees {
         if (!isIndex(i, index)) {
             return NO_NUMBER;
         }
-        pool.read(trees[i], sizes[i], one);
-        return one[index];
+        return pool.numberAt(trees[i], index);
     }
 
     public int path(int i, int index) {
@@ -776,8 +775,7 @@ public final class EvenTrees {
     }
 
     private int takeOne(int i, int index, int k, int how) {
-        pool.read(trees[i], sizes[i], one);
-        told.tell(one[index]);
+        told.tell(pool.numberAt(trees[i], index));
         int before = begin();
         keep(k, pool.take(trees[i], sizes[i], how), sizes[i] - 1);
         return pool.made - before;
@@ -1030,6 +1028,7 @@ public final class EvenTrees {
         // What six PLACES can hold, and what the dearest call, turned(), can make: 255 times 7 and 8.
         private static final int ROOM = 6144;
         private static final int ONE_CALL = 4096;
+        private static final int SEEN_AT_MOST = 256;
 
         private final int[] numbers = new int[ROOM];
         private final int[] lefts = new int[ROOM];
@@ -1040,6 +1039,7 @@ public final class EvenTrees {
         private int next = 1;
         private int free = ROOM - 1;
         private int made = 0;
+        private int base = 0;
 
         boolean hasRoom() {
             return free >= ONE_CALL;
@@ -1096,6 +1096,14 @@ public final class EvenTrees {
         }
 
         // ---- TREES by INDEX
+
+        int numberAt(int tree, int index) {
+            int node = tree;
+            for (int rest = index; rest > 0; rest = (rest - 1) / 2) {
+                node = rest % 2 == 1 ? leftOf(node) : rightOf(node);
+            }
+            return numberOf(node);
+        }
 
         /** Row at has the NODES of a TREE by INDEX. */
         void spread(int tree, int size) {
@@ -1169,8 +1177,9 @@ public final class EvenTrees {
 
         // ---- which NODES were seen
 
+        /** What was seen counts from a new base on, so that all that is below it is forgotten. */
         void forget() {
-            Arrays.fill(seen, 0);
+            base += SEEN_AT_MOST;
         }
 
         /** Puts a bit to the NODE that row at has: its bits ahead of that. */
@@ -1179,8 +1188,8 @@ public final class EvenTrees {
             if (!isNode(node)) {
                 return 0;
             }
-            int before = seen[node];
-            seen[node] = before | bit;
+            int before = seenOf(node);
+            seen[node] = base + (before | bit);
             return before;
         }
 
@@ -1190,8 +1199,13 @@ public final class EvenTrees {
             if (!isNode(node)) {
                 return 0;
             }
-            seen[node]++;
-            return seen[node];
+            int times = seenOf(node) + 1;
+            seen[node] = base + times;
+            return times;
+        }
+
+        private int seenOf(int node) {
+            return Math.max(0, seen[node] - base);
         }
 
         // ---- both ends, heaps

@@ -1424,18 +1424,20 @@ public final class PromisesTest {
         due("PLACES", x.count(0), 32);
     }
 
-    /** 450 calls of each kind that makes NODES, with five PLACES that must stay as they are. */
+    /** 450 calls of each kind that makes NODES: alike in what they make, and four PLACES stay. */
     private void againAndAgain() {
-        for (int kind = 0; kind < 14; kind++) {
+        for (int kind = 0; kind <= 19; kind++) {
             promise(1, "again and again, kind " + kind);
             for (int k = 0; k < 5; k++) {
                 Check.rising(x, k, 100 * k, 127);
                 x.roots(k, k, k, k);
             }
+            long once = makeSome(kind);
+            check.holds("something is MADE", once % 10000 > 0);
             for (int times = 0; times < 450; times++) {
-                makeSome(kind);
+                due("once more", makeSome(kind), once);
             }
-            for (int k = 0; k < 5; k++) {
+            for (int k = 0; k < 4; k++) {
                 due("own", x.own(k), 128);
                 for (int index = 0; index < 255; index++) {
                     due("INDEX " + index, x.get(k, index), index == 0 ? k : 100 * k + (index - 1) / 2);
@@ -1444,23 +1446,33 @@ public final class PromisesTest {
         }
     }
 
-    private void makeSome(int kind) {
+    /** How many NODES one call makes, and what PLACE 5 has then, in one number. */
+    private long makeSome(int kind) {
+        x.sides(1, 0, 5);
+        int made = x.count(1);
         switch (kind) {
             case 0 -> x.fills(255, 1, 5);
             case 1 -> x.slips(5, 0, 1, 5);
             case 2 -> x.adds(0, 0, 255, 1, 5);
-            case 3 -> x.appends(5, 5, x.sides(1, 0, 5) == 127 ? 5 : 0);
+            case 3 -> x.appends(5, 5, 5);
             case 4 -> x.turned(1, 50, 5);
             case 5 -> x.reverses(2, 5);
             case 6 -> x.keeps(3, 9, 5);
-            case 7 -> x.skips(4, 250, 5);
-            case 8 -> x.swaps(0, 253, 254, 5);
+            case 7 -> x.skips(3, 250, 5);
+            case 8 -> x.swaps(0, 252, 253, 5);
             case 9 -> x.mirrors(1, 5);
             case 10 -> x.push(5, 1, 5);
             case 11 -> x.pop(2, 5);
             case 12 -> x.heaps(3, 5);
-            default -> x.sets(4, 200, x.first(4, 5) + x.last(4, 5), 5);
+            case 13 -> x.first(2, 5);
+            case 14 -> x.last(2, 5);
+            case 15 -> x.sets(2, 200, -1, 5);
+            case 16 -> x.front(5, 1, 5);
+            case 17 -> x.back(5, 1, 5);
+            case 18 -> x.parts(1, 100, 4, 5);
+            default -> x.roots(-5, 5, 5, 5);
         }
+        return 10000L * (x.sum(5, 0, x.size(5)) + 1000L * x.size(5) + x.own(5)) + x.count(1) - made;
     }
 
     private void p52() {
