@@ -363,7 +363,7 @@ public final class EvenTrees {
     }
 
     public int picks(int i, int l, int r, int k) {
-        if (!isPlace(i) || !isPlace(k)) {
+        if (!isPlace(i) || !isNumber(l) || !isNumber(r) || !isPlace(k)) {
             return NONE;
         }
         pool.read(trees[i], sizes[i], one);

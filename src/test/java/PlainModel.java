@@ -625,7 +625,7 @@ public final class PlainModel {
     }
 
     public int picks(int i, int l, int r, int k) {
-        if (!places(i, k)) {
+        if (!places(i, k) || !number(l) || !number(r)) {
             return -1;
         }
         List<Integer> numbers = all(place[i]);

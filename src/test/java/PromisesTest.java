@@ -883,10 +883,24 @@ public final class PromisesTest {
         due("BUILT", x.count(1), 10);
         due("one", x.picks(0, -3, -3, 1), 1);
         check.has("one", x, 1, -3);
-        due("all", x.picks(0, Integer.MIN_VALUE, Integer.MAX_VALUE, 1), 6);
+        due("all", x.picks(0, -999, 999, 1), 6);
         check.has("all", x, 1, 5, -3, 8, 0, 9, 5);
+        int made = x.count(1);
+        for (int v : NO_NUMBERS) {
+            due("no such NUMBER l", x.picks(0, v, 999, 1), NONE);
+            due("no such NUMBER r", x.picks(0, -999, v, 1), NONE);
+            due("no such NUMBERS", x.picks(0, v, v, 1), NONE);
+            due("no such NUMBER, of an empty one", x.picks(5, v, 0, 1), NONE);
+        }
+        check.has("as it was", x, 1, 5, -3, 8, 0, 9, 5);
+        due("nothing MADE", x.count(1), made);
         due("none", x.picks(0, 8, 0, 1), 0);
         due("empty now", x.count(0), 1);
+        Check.tells(x, 0, "-999,999,-998,998");
+        due("the least NUMBER", x.picks(0, -999, -999, 1), 1);
+        check.has("the least NUMBER", x, 1, -999);
+        due("the greatest NUMBER", x.picks(0, 999, 999, 1), 1);
+        check.has("the greatest NUMBER", x, 1, 999);
         for (int i : NO_PLACES) {
             due("no such PLACE", x.picks(i, 0, 1, 1), NONE);
             due("no such PLACE", x.picks(0, 0, 1, i), NONE);
