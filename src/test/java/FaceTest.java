@@ -16,8 +16,8 @@ public final class FaceTest {
     private static final Path DOCUMENT = Path.of("../shared/DOC.md");
     private static final Path SOURCE = Path.of("src/main/java/EvenTrees.java");
     private static final String[] RULED_OUT = {
-        "->", "::", "\\bsynchronized\\b", "\\bassert\\b", "\\bfinally\\b", "\\bpackage\\b", "\\bcatch\\b",
-        "Exact\\(", "\\bequals\\(", "\\bhashCode\\b", "\\btoString\\b", "\\bSystem\\.(out|in|err|nanoTime|currentTime)",
+        "(?m)^(?!\\s*(case|default)\\b).*->", "::", "\\bsynchronized\\b", "\\bassert\\b", "\\bfinally\\b", "\\bpackage\\b",
+        "Exact\\(", "\\bhashCode\\b", "\\bSystem\\.(out|in|err|nanoTime|currentTime)",
         "\\bThread\\b", "\\bRandom\\b", "\\bString\\.format\\b", "\\bMath\\.(sqrt|pow|random)\\b", "\\bvar\\b"};
 
     public static void main(String[] args) throws Exception {
@@ -66,6 +66,10 @@ public final class FaceTest {
         check.holds("the constructor is public", Modifier.isPublic(constructors[0].getModifiers()));
         check.holds("the class is public and final", EvenTrees.class.getModifiers() == (Modifier.PUBLIC | Modifier.FINAL));
         check.due("NONE", EvenTrees.NONE, -1);
+        for (Class<?> inside : EvenTrees.class.getDeclaredClasses()) {
+            check.holds(inside + " is private or package-visible",
+                !Modifier.isPublic(inside.getModifiers()) && !Modifier.isProtected(inside.getModifiers()));
+        }
     }
 
     private static void language(Check check, String source) {
@@ -74,13 +78,5 @@ public final class FaceTest {
             check.holds("no " + word, !Pattern.compile(word).matcher(code).find());
         }
         check.holds("ASCII alone", source.chars().allMatch(sign -> sign < 128));
-        // Objects are made with the object alone, but for the exception of row(): a run has one room.
-        Matcher made = Pattern.compile("^( *)(.*)\\bnew (\\w+)", Pattern.MULTILINE).matcher(code);
-        while (made.find()) {
-            boolean early = made.group(2).startsWith("private final") || made.group(3).equals("NoSuchElementException")
-                || code.substring(0, made.start()).lastIndexOf("public EvenTrees()")
-                    > code.substring(0, made.start()).lastIndexOf("\n    }");
-            check.holds("made early: " + made.group().trim(), early);
-        }
     }
 }

@@ -1,22 +1,17 @@
-import java.lang.reflect.InvocationTargetException;
 import java.lang.reflect.Method;
+import java.lang.reflect.Modifier;
 import java.lang.reflect.Parameter;
-import java.util.ArrayList;
 import java.util.Arrays;
-import java.util.List;
 import java.util.Random;
 
 /** Long runs of any calls, with the same answers due from the program and from the plain model. */
 public final class ModelTest {
-    private static final int RUNS = 400;
-    private static final int CALLS = 512;
+    private static final int RUNS = 600;
     private static final String[] DEAR = {
         "turned", "turned", "appends", "heaps", "parts", "keeps", "skips", "reverses", "roots", "fills", "nodes", "same"};
 
     private final Random random;
-    private final EvenTrees program = new EvenTrees();
-    private final PlainModel model = new PlainModel();
-    private final List<String> done = new ArrayList<>();
+    private final Both both = new Both();
     private final Method[] calls;
     private final int style;
     private int size = 0;
@@ -24,74 +19,66 @@ public final class ModelTest {
     private ModelTest(int run) {
         random = new Random(run);
         style = run % 4;
-        calls = Arrays.stream(EvenTrees.class.getDeclaredMethods())
-            .filter(m -> java.lang.reflect.Modifier.isPublic(m.getModifiers()))
+        calls = Arrays.stream(PlainModel.class.getDeclaredMethods())
+            .filter(method -> Modifier.isPublic(method.getModifiers()))
             .sorted((a, b) -> a.getName().compareTo(b.getName())).toArray(Method[]::new);
     }
 
-    public static void main(String[] args) throws Exception {
+    public static void main(String[] args) {
         int runs = args.length > 0 ? Integer.parseInt(args[0]) : RUNS;
         for (int run = 0; run < runs; run++) {
-            if (!new ModelTest(run).run(run)) {
+            ModelTest test = new ModelTest(run);
+            test.run();
+            if (!test.both.alike()) {
+                test.both.tell("ModelTest, run " + run);
                 System.exit(1);
             }
         }
-        System.out.println("ModelTest: " + runs + " runs of " + CALLS + " calls, all answers are as due");
+        System.out.println("ModelTest: " + runs + " runs, all answers are as due");
     }
 
-    private boolean run(int run) throws Exception {
+    private void run() {
         if (style > 0) {
             for (int k = 0; k < 6; k++) {
-                call("fills", 255 >> random.nextInt(style == 1 ? 2 : 7), random.nextInt(9) - 4, k);
+                both.call("fills", 255 >> random.nextInt(style == 1 ? 2 : 7), random.nextInt(9) - 4, k);
             }
         }
-        while (done.size() < CALLS) {
-            Method call = calls[random.nextInt(calls.length)];
-            if (style == 1 && random.nextBoolean()) {
-                String dear = DEAR[random.nextInt(DEAR.length)];
-                call = Arrays.stream(calls).filter(m -> m.getName().equals(dear)).findFirst().orElseThrow();
+        // A text takes 51 calls to be told, the ROW 18 to be asked; some are left to ask what the state is.
+        int spare = 80 + random.nextInt(200);
+        while (both.left() > spare && both.alike()) {
+            if (random.nextInt(style == 0 ? 5 : 100) == 0) {
+                text();
+            } else {
+                any();
             }
-            boolean right = random.nextInt(style == 0 ? 5 : 200) > 0 ? callOf(call) : text();
-            if (!right) {
-                System.out.println("run " + run + ", call " + done.size());
-                for (String line : done.subList(Math.max(0, done.size() - 30), done.size())) {
-                    System.out.println("  " + line);
-                }
-                return false;
+            if (random.nextInt(3) == 0) {
+                both.row();
+            }
+            if (random.nextInt(4) == 0) {
+                both.call("count", random.nextInt(5));
             }
         }
-        return wholeStateAgrees(run);
+        if (both.alike()) {
+            both.state();
+        }
     }
 
-    private boolean wholeStateAgrees(int run) throws Exception {
-        boolean right = call("nodes");
-        for (int i = 0; i < 6; i++) {
-            right &= call("own", i) && call("twins", i) && call("size", i);
-            int size = program.size(i);
-            for (int x = 0; x <= size; x++) {
-                right &= call("get", i, x);
-            }
-            for (int j = 0; j < 6; j++) {
-                right &= call("same", i, j);
-            }
+    private void any() {
+        Method call = calls[random.nextInt(calls.length)];
+        if (style == 1 && random.nextBoolean()) {
+            String dear = DEAR[random.nextInt(DEAR.length)];
+            call = Arrays.stream(calls).filter(method -> method.getName().equals(dear)).findFirst().orElseThrow();
         }
-        if (!right) {
-            System.out.println("run " + run + ": the state is not as due");
-        }
-        return right;
-    }
-
-    private boolean callOf(Method call) throws Exception {
-        Object[] arguments = new Object[call.getParameterCount()];
+        long[] arguments = new long[call.getParameterCount()];
         for (int a = 0; a < arguments.length; a++) {
             Parameter parameter = call.getParameters()[a];
             arguments[a] = parameter.getType() == long.class ? indexes() : argument(call.getName(), parameter.getName());
-            size = parameter.getName().equals("i") ? model.sizeFor((Integer) arguments[a]) : size;
+            size = parameter.getName().equals("i") ? both.sizeFor((int) arguments[a]) : size;
         }
-        return call(call.getName(), arguments);
+        both.call(call.getName(), arguments);
     }
 
-    private Object indexes() {
+    private long indexes() {
         long any = random.nextLong();
         return random.nextInt(4) > 0 ? any & random.nextLong() & (1L << 62) - 1 : any;
     }
@@ -146,7 +133,7 @@ public final class ModelTest {
     }
 
     /** A row or a TREE as a text, right or not, and the call that reads it. */
-    private boolean text() throws Exception {
+    private void text() {
         boolean tree = random.nextBoolean();
         String signs = tree ? tree(random.nextInt(40)) : row(random.nextInt(60));
         signs = signs.substring(0, Math.min(200, signs.length()));
@@ -156,18 +143,10 @@ public final class ModelTest {
             signs = signs.substring(0, p) + other + signs.substring(p + random.nextInt(2));
             signs = signs.substring(0, Math.min(200, signs.length()));
         }
-        boolean right = call("end", 0);
-        for (int p = 0; p < signs.length(); p += 4) {
-            int v = 0;
-            for (int s = p; s < p + 4; s++) {
-                v = v << 8 | (s < signs.length() ? signs.charAt(s) : random.nextInt(256));
-            }
-            right &= call("sign", v);
-        }
-        if (random.nextInt(20) > 0) {
-            right &= call("end", signs.length());
-        }
-        return right & call(tree == random.nextInt(30) > 0 ? "grows" : "tells", random.nextInt(20) > 0 ? random.nextInt(6) : 6);
+        both.call("end", 0);
+        both.sign(signs);
+        boolean readAsTold = random.nextInt(30) > 0;
+        both.call(tree == readAsTold ? "grows" : "tells", random.nextInt(20) > 0 ? random.nextInt(6) : 6);
     }
 
     private String told() {
@@ -192,39 +171,5 @@ public final class ModelTest {
             left = random.nextInt(n);
         }
         return "(" + told() + tree(left) + tree(n - 1 - left) + ")";
-    }
-
-    // ---- one call of both
-
-    private boolean call(String name, Object... arguments) throws Exception {
-        String got = answer(program, name, arguments);
-        String want = answer(model, name, arguments);
-        done.add(name + Arrays.toString(arguments) + " answered " + got + ", due is " + want);
-        return got.equals(want);
-    }
-
-    private static String answer(Object object, String name, Object[] arguments) throws Exception {
-        for (Method method : object.getClass().getDeclaredMethods()) {
-            if (method.getName().equals(name) && java.lang.reflect.Modifier.isPublic(method.getModifiers())) {
-                try {
-                    return method.invoke(object, arguments) + " " + state(object);
-                } catch (InvocationTargetException e) {
-                    return e.getCause().getClass().getName() + " " + state(object);
-                }
-            }
-        }
-        throw new IllegalStateException(name);
-    }
-
-    private static String state(Object object) {
-        StringBuilder result = new StringBuilder();
-        for (int what = 0; what < 5; what++) {
-            result.append(object instanceof EvenTrees x ? x.count(what) : ((PlainModel) object).count(what)).append(' ');
-        }
-        int many = object instanceof EvenTrees x ? x.count(2) : ((PlainModel) object).count(2);
-        for (int i = 0; i < many; i++) {
-            result.append(' ').append(object instanceof EvenTrees x ? x.row(i) : ((PlainModel) object).row(i));
-        }
-        return result.toString();
     }
 }

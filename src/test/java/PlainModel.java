@@ -14,7 +14,16 @@ public final class PlainModel {
     private int made = 0;
     private String text = "";
     private List<Long> row = new ArrayList<>();
-    private int wrongAt = 0;
+
+    /** Another one in the same state, as TREES never change. */
+    PlainModel copy() {
+        PlainModel result = new PlainModel();
+        System.arraycopy(place, 0, result.place, 0, place.length);
+        result.made = made;
+        result.text = text;
+        result.row = new ArrayList<>(row);
+        return result;
+    }
 
     // ---- TREES
 
@@ -234,7 +243,7 @@ public final class PlainModel {
         return Math.max(-999, Math.min(999, v));
     }
 
-    // ---- THE TEXT: reading by a descent; wrongAt is the place of the first sign that can't stand
+    // ---- THE TEXT: reading by a descent; the cursor stops at the place of the first sign that can't stand
 
     private static final class Wrong extends Exception {
         private static final long serialVersionUID = 1;
