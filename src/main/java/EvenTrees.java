@@ -31,8 +31,8 @@ public final class EvenTrees {
 
     private final Pool pool;
     private final Row told;
-    private final Text text;
     private final Reader reader;
+    private final Text text;
     private final Writer writer;
     private final Ways marked;
     private final int[] trees;
@@ -45,8 +45,8 @@ public final class EvenTrees {
     public EvenTrees() {
         pool = new Pool();
         told = new Row();
-        text = new Text();
-        reader = new Reader(text);
+        reader = new Reader();
+        text = reader.text;
         writer = new Writer();
         marked = new Ways();
         trees = new int[PLACES];
@@ -167,7 +167,8 @@ public final class EvenTrees {
         }
         readBoth(i, i);
         one[index] = v;
-        return change(i, k);
+        markUnlike(sizes[i]);
+        return renew(i, k);
     }
 
     public int front(int i, int v, int k) {
@@ -294,7 +295,8 @@ public final class EvenTrees {
         int number = this.one[one];
         this.one[one] = this.one[other];
         this.one[other] = number;
-        return change(i, k);
+        markUnlike(sizes[i]);
+        return renew(i, k);
     }
 
     public int zips(int i, int j, int what, int k) {
@@ -781,12 +783,6 @@ public final class EvenTrees {
         return pool.made - before;
     }
 
-    /** PLACE k has that of i CHANGED where the one row is unlike the other, which is as it was. */
-    private int change(int i, int k) {
-        markUnlike(sizes[i]);
-        return renew(i, k);
-    }
-
     /** PLACE k has that of i CHANGED to the one row on the marked ways. */
     private int renew(int i, int k) {
         int before = begin();
@@ -794,6 +790,7 @@ public final class EvenTrees {
         return pool.made - before;
     }
 
+    /** Marks where the one row is unlike the other: at how many INDEXES. */
     private int markUnlike(int size) {
         marked.clear();
         int unlike = 0;
@@ -1370,14 +1367,15 @@ public final class EvenTrees {
     }
 
     /**
-     * Reads THE TEXT sign by sign. When a reading fails, at is the place of the sign that can't stand
-     * there. The NODES of a TREE are kept in the order of their (, with a chain of those still open
-     * instead of calls within calls, as a TREE that is not EVEN may be as deep as THE TEXT is long.
+     * Has THE TEXT, and reads it sign by sign. When a reading fails, at is the place of the sign that
+     * can't stand there. The NODES of a TREE are kept in the order of their (, with a chain of those
+     * still open instead of calls within calls, as a TREE that is not EVEN may be as deep as THE TEXT
+     * is long.
      */
     private static final class Reader {
         private static final int NODES = Text.LONGEST / 2;
 
-        private final Text text;
+        private final Text text = new Text();
         private final int[] starts = new int[NODES];
         private final int[] values = new int[NODES];
         private final int[] parents = new int[NODES];
@@ -1391,10 +1389,6 @@ public final class EvenTrees {
         private int many = 0;
         private int open = NONE;
         private boolean whole = false;
-
-        Reader(Text text) {
-            this.text = text;
-        }
 
         /** How many NUMBERS the row has, NONE when the reading fails. */
         int readRow(int[] row) {

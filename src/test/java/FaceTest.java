@@ -11,21 +11,14 @@ import java.util.TreeSet;
 import java.util.regex.Matcher;
 import java.util.regex.Pattern;
 
-/** The public face is the document's code block, whole and alone; some rules of LANGUAGE.md. */
+/** The public face is the document's code block, whole and alone. */
 public final class FaceTest {
     private static final Path DOCUMENT = Path.of("../shared/DOC.md");
-    private static final Path SOURCE = Path.of("src/main/java/EvenTrees.java");
-    private static final String[] RULED_OUT = {
-        "(?m)^(?!\\s*(case|default)\\b).*->", "::", "\\bsynchronized\\b", "\\bassert\\b", "\\bfinally\\b", "\\bpackage\\b",
-        "Exact\\(", "\\bhashCode\\b", "\\bSystem\\.(out|in|err|nanoTime|currentTime)",
-        "\\bThread\\b", "\\bRandom\\b", "\\bString\\.format\\b", "\\bMath\\.(sqrt|pow|random)\\b", "\\bvar\\b"};
 
     public static void main(String[] args) throws Exception {
         Check check = new Check();
         check.part("face");
         face(check, Files.readString(DOCUMENT, StandardCharsets.UTF_8));
-        check.part("language");
-        language(check, Files.readString(SOURCE, StandardCharsets.UTF_8));
         check.finish("FaceTest");
     }
 
@@ -70,13 +63,5 @@ public final class FaceTest {
             check.holds(inside + " is private or package-visible",
                 !Modifier.isPublic(inside.getModifiers()) && !Modifier.isProtected(inside.getModifiers()));
         }
-    }
-
-    private static void language(Check check, String source) {
-        String code = source.replaceAll("(?s)/\\*.*?\\*/", "").replaceAll("//[^\n]*", "");
-        for (String word : RULED_OUT) {
-            check.holds("no " + word, !Pattern.compile(word).matcher(code).find());
-        }
-        check.holds("ASCII alone", source.chars().allMatch(sign -> sign < 128));
     }
 }
